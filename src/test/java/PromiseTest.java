@@ -377,6 +377,10 @@ public final class PromiseTest {
         due("7: of o s p", x.seconds(4, 3, 9), 2);
         due("7: of o p s", x.seconds(5, 3, 9), 1);
         due("7: none", x.seconds(0, 500, 9), 0);
+        x.add(0, 0, 0, 9);
+        x.add(999, 1, 1, 9);
+        due("7: the lowest term", x.seconds(0, 0, 9), 1);
+        due("7: the highest term", x.seconds(0, 999, 9), 1);
         firstRefusals("7", false);
     }
 
@@ -393,6 +397,10 @@ public final class PromiseTest {
         due("8: of o s p", x.sum(4, 3, 9), 4);
         due("8: of o p s", x.sum(5, 3, 9), 8);
         due("8: none", x.sum(0, 500, 9), 0);
+        x.add(0, 0, 6, 9);
+        x.add(999, 1, 8, 9);
+        due("8: the lowest term", x.sum(0, 0, 9), 6);
+        due("8: the highest term", x.sum(0, 999, 9), 8);
         TripleOrders y = new TripleOrders(400);
         for (int i = 0; i < 400; i++) {
             y.add(1, i, 999, 0);
