@@ -57,11 +57,9 @@ public final class TripleOrders {
     }
 
     public int add(int s, int p, int o, int version) {
-        if (!isTriple(s, p, o) || !isVersion(version)) {
-            return OUTSIDE;
-        }
-        if (version < log.now) {
-            return NOT_IN_STATE;
+        int refusal = refusalOfChange(s, p, o, version);
+        if (refusal != 0) {
+            return refusal;
         }
         if (isThereNow(s, p, o)) {
             return 0;
@@ -77,11 +75,9 @@ public final class TripleOrders {
     }
 
     public int remove(int s, int p, int o, int version) {
-        if (!isTriple(s, p, o) || !isVersion(version)) {
-            return OUTSIDE;
-        }
-        if (version < log.now) {
-            return NOT_IN_STATE;
+        int refusal = refusalOfChange(s, p, o, version);
+        if (refusal != 0) {
+            return refusal;
         }
         if (!isThereNow(s, p, o)) {
             return 0;
@@ -255,6 +251,13 @@ public final class TripleOrders {
 
     private boolean isThereNow(int s, int p, int o) {
         return pageRows[0].triples.has(keyOf(0, s, p, o));
+    }
+
+    private int refusalOfChange(int s, int p, int o, int version) {
+        if (!isTriple(s, p, o) || !isVersion(version)) {
+            return OUTSIDE;
+        }
+        return version < log.now ? NOT_IN_STATE : 0;
     }
 
     private int refusalOfFirst(int order, int a, int version) {
